@@ -39,6 +39,7 @@ public final class PromisesTest {
         spares();
         stretches();
         cores();
+        firstAndLastPoints();
         askedOdds();
         images();
         seenPoints();
@@ -546,6 +547,42 @@ public final class PromisesTest {
         due(23, "like ones", told("4;a-2>;b-2>;b-1<;a-1<").core(), 2 + 4);
         due(23, "all", told("1;a+b+c+d-4=;a=").core(), 3);
         due(23, "eight", told("1;a+b+c+d-9>;a>;a>;a>;a>;a>;a>;0#").core(), 1);
+    }
+
+    private static void firstAndLastPoints() {
+        DarkShadows last = told("7;a+b+c+d-28=");
+        due(8, "count(2)", last.count(2), 1);
+        due(8, "count(3)", last.count(3), 4095);
+        due(17, "values", last.range(2, 2), 128);
+        due(18, "gaps", last.apart(0, 3, 2), 1);
+        due(21, "spare", last.spare(1), 4096);
+        due(23, "core", last.core(), NONE);
+        tell(last, "7;a+b+c+d-28=;d#");
+        due(21, "spare", last.spare(1), 4096 - 512);
+        tell(last, "7;a+b+c+d-28=;a-2>;d-9>");
+        due(22, "stretch", last.stretch(2), 2);
+        DarkShadows first = told("7;a+b+c+d=");
+        due(4, "sum", first.sum(0, 0), 0);
+        due(8, "count(2)", first.count(2), 1);
+        due(8, "count(3)", first.count(3), 0);
+        due(17, "values", first.range(3, 2), 1);
+        due(17, "greatest", first.range(3, 1), 0);
+        due(18, "gaps", first.apart(0, 3, 0), 0);
+        due(18, "gaps", first.apart(0, 3, 2), 1);
+        due(20, "deep", first.deep(0, 2), 1);
+        due(23, "core", first.core(), NONE);
+        first.sheet(0, 3, 2);
+        due(28, "film", first.film(2, 0, 3, 0), 2);
+        due(28, "0", seenSum(first, 0, 3, 0), 0);
+        due(28, "no more", seenSum(first, 0, 3, 1), NOT);
+        DarkShadows two = told("1;a+b+c+d-1<;a=;b=;c=");
+        two.sheet(0, 3, 3);
+        due(28, "film", two.film(3, 0, 3, 0), 3);
+        due(28, "0", seenSum(two, 0, 3, 0), 0);
+        due(28, "1", seenSum(two, 0, 3, 1), 1);
+        due(28, "no more", seenSum(two, 0, 3, 2), NOT);
+        due(20, "the least value alone", told("7;a<").deep(0, 2), 512);
+        due(20, "the greatest value alone", told("7;a-7>").deep(0, 2), 512);
     }
 
     private static void askedOdds() {
