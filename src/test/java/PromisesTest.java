@@ -61,26 +61,13 @@ public final class PromisesTest {
         return a * 512 + b * 64 + c * 8 + d;
     }
 
-    private static int tell(DarkShadows x, String text) {
-        for (int i = 0; i < text.length(); i++) {
-            x.type(text.charAt(i));
-        }
-        return x.system();
-    }
-
-    private static DarkShadows told(String text) {
-        DarkShadows x = new DarkShadows();
-        tell(x, text);
-        return x;
-    }
-
-    private static void row(DarkShadows x, int variable, int shadow, int k, int... want) {
+    private static void row(Used x, int variable, int shadow, int k, int... want) {
         for (int i = 0; i < 5; i++) {
             due(19, "row(" + variable + ", " + shadow + ", " + k + ", " + i + ")", x.row(variable, shadow, k, i), want[i]);
         }
     }
 
-    private static void cells(int promise, DarkShadows x, int constraint, int... want) {
+    private static void cells(int promise, Used x, int constraint, int... want) {
         for (int i = 0; i < 6; i++) {
             due(promise, "of(" + constraint + ", " + i + ")", x.of(constraint, i), want[i]);
         }
@@ -98,7 +85,7 @@ public final class PromisesTest {
     }
 
     private static void newObject() {
-        DarkShadows x = new DarkShadows();
+        Used x = new Used();
         due(1, "count(0)", x.count(0), 0);
         due(1, "count(1)", x.count(1), 4);
         due(1, "count(2)", x.count(2), 625);
@@ -113,7 +100,7 @@ public final class PromisesTest {
     }
 
     private static void adding() {
-        DarkShadows x = new DarkShadows();
+        Used x = new Used();
         due(2, "add", x.add(0, pack(1, -2, 3, -4), 5), 0);
         cells(2, x, 0, 1, -2, 3, -4, 5, 0);
         due(2, "add least", x.add(4, 0, -99), 1);
@@ -146,7 +133,7 @@ public final class PromisesTest {
     }
 
     private static void reading() {
-        DarkShadows x = told("4;2a-3b+c-d+5>;a<;a=;a#;a%");
+        Used x = Used.told("4;2a-3b+c-d+5>;a<;a=;a#;a%");
         cells(3, x, 0, 2, -3, 1, -1, 5, 0);
         for (int v : EXTREMES) {
             due(3, "of " + v, x.of(v, 0), BAD);
@@ -167,13 +154,13 @@ public final class PromisesTest {
         due(5, "hold 1", x.hold(point(1, 0, 0, 0)), 1 + 8);
         due(5, "hold 2", x.hold(point(2, 0, 0, 0)), 1 + 8 + 16);
         due(5, "hold above MOST", x.hold(point(7, 7, 7, 7)), 8);
-        DarkShadows y = told("4;-a>;-a<;-a=;-a#;-a%");
+        Used y = Used.told("4;-a>;-a<;-a=;-a#;-a%");
         due(5, "hold -1", y.hold(point(1, 0, 0, 0)), 2 + 8);
         due(5, "hold -2", y.hold(point(2, 0, 0, 0)), 2 + 8 + 16);
     }
 
     private static void typing() {
-        DarkShadows x = new DarkShadows();
+        Used x = new Used();
         for (int v : EXTREMES) {
             due(6, "type " + v, x.type(v), BAD);
         }
@@ -191,23 +178,23 @@ public final class PromisesTest {
         while (longest.length() < 130) {
             longest.append(' ');
         }
-        due(6, "130 letters told", tell(new DarkShadows(), longest.toString()), 1);
+        due(6, "130 letters told", new Used().tell(longest.toString()), 1);
     }
 
     private static void systemsTold() {
-        due(7, "4", tell(new DarkShadows(), "4"), 0);
-        DarkShadows x = told("7 ; 9 a - b + 0c +12 <; -99=;d-9a +1%");
+        due(7, "4", new Used().tell("4"), 0);
+        Used x = Used.told("7 ; 9 a - b + 0c +12 <; -99=;d-9a +1%");
         due(7, "count(0)", x.count(0), 3);
         due(7, "count(1)", x.count(1), 7);
         cells(7, x, 0, 9, -1, 0, 0, 12, 1);
         cells(7, x, 1, 0, 0, 0, 0, -99, 2);
         cells(7, x, 2, -9, 0, 0, 1, 1, 4);
-        due(7, "eight", tell(x, "1;a>;b<;c=;d#;1%;+a>;-b>;9d>"), 8);
-        due(7, "05a", tell(x, "1;05a>"), 1);
+        due(7, "eight", x.tell("1;a>;b<;c=;d#;1%;+a>;-b>;9d>"), 8);
+        due(7, "05a", x.tell("1;05a>"), 1);
         cells(7, x, 0, 5, 0, 0, 0, 0, 0);
-        due(7, "number told, then a letter's", tell(x, "1;5+5 a-6b>"), 1);
+        due(7, "number told, then a letter's", x.tell("1;5+5 a-6b>"), 1);
         cells(7, x, 0, 5, -6, 0, 0, 5, 0);
-        due(7, "ends at any letter order", tell(x, "2;d+c+b+a#"), 1);
+        due(7, "ends at any letter order", x.tell("2;d+c+b+a#"), 1);
         cells(7, x, 0, 1, 1, 1, 1, 0, 3);
     }
 
@@ -220,23 +207,23 @@ public final class PromisesTest {
             2, 3, 4, 5, 5, 4, 5, 4, 4, 4, 4, 5, 5,
             6, 6, 6, 5, 6, 4, 5, 5, 4, 2, 3, 3,
             25, 26};
-        DarkShadows x = told("3;a-b>");
+        Used x = Used.told("3;a-b>");
         x.add(2, pack(1, 0, 0, 0), -1);
         for (int i = 0; i < texts.length; i++) {
-            due(7, "system of '" + texts[i] + "'", tell(x, texts[i]), FAULT - places[i]);
+            due(7, "system of '" + texts[i] + "'", x.tell(texts[i]), FAULT - places[i]);
             due(7, "constraints after '" + texts[i] + "'", x.count(0), 2);
             due(7, "MOST after '" + texts[i] + "'", x.count(1), 3);
             due(7, "undo after '" + texts[i] + "'", x.count(4), 1);
         }
         cells(7, x, 0, 1, -1, 0, 0, 0, 0);
         x.seed(77);
-        due(7, "system", tell(x, "5;b>"), 1);
+        due(7, "system", x.tell("5;b>"), 1);
         due(7, "nothing to undo", x.count(4), 0);
         due(7, "THE DRAW stays", x.seed(1), 77);
     }
 
     private static void counting() {
-        DarkShadows x = told("2;a+b-3=;c-2=;d-1>");
+        Used x = Used.told("2;a+b-3=;c-2=;d-1>");
         due(8, "count(0)", x.count(0), 3);
         due(8, "count(1)", x.count(1), 2);
         due(8, "count(2)", x.count(2), 4);
@@ -250,11 +237,11 @@ public final class PromisesTest {
             due(8, "count " + v, x.count(v), BAD);
         }
         due(8, "count 5", x.count(5), BAD);
-        due(8, "all of 7", told("7").count(2), 4096);
+        due(8, "all of 7", Used.told("7").count(2), 4096);
     }
 
     private static void dropping() {
-        DarkShadows x = told("4;a>;b<;c=");
+        Used x = Used.told("4;a>;b<;c=");
         for (int v : EXTREMES) {
             due(9, "drop " + v, x.drop(v), BAD);
         }
@@ -266,14 +253,14 @@ public final class PromisesTest {
         due(9, "drop(1)", x.drop(1), 1);
         due(9, "drop(0)", x.drop(0), 0);
         due(9, "drop(0)", x.drop(0), BAD);
-        DarkShadows y = told("4;a>;b>;c>;d>;a<;b<;c<;d<");
+        Used y = Used.told("4;a>;b>;c>;d>;a<;b<;c<;d<");
         due(9, "drop(7)", y.drop(7), 7);
         due(9, "drop(0)", y.drop(0), 6);
         cells(9, y, 5, 0, 0, 1, 0, 0, 1);
     }
 
     private static void changing() {
-        DarkShadows x = told("4;2a-3b+5>");
+        Used x = Used.told("4;2a-3b+5>");
         for (int v : EXTREMES) {
             due(10, "change constraint " + v, x.change(v, 0, 0), BAD);
             due(10, "change what " + v, x.change(0, v, 0), BAD);
@@ -293,7 +280,7 @@ public final class PromisesTest {
     }
 
     private static void shapingAndTurning() {
-        DarkShadows x = told("4;2a-3b+5>");
+        Used x = Used.told("4;2a-3b+5>");
         for (int v : EXTREMES) {
             due(11, "shape constraint " + v, x.shape(v, 1), BAD);
             due(11, "shape to " + v, x.shape(0, v), BAD);
@@ -305,17 +292,17 @@ public final class PromisesTest {
         due(11, "shape", x.shape(0, 1), 4);
         due(11, "count(4)", x.count(4), 2);
         due(12, "turn(1)", x.turn(1), BAD);
-        int least = told("4;2a-3b+5>").count(2);
+        int least = Used.told("4;2a-3b+5>").count(2);
         due(12, "turn", x.turn(0), least);
         cells(12, x, 0, -2, 3, 0, 0, -5, 1);
         due(12, "count(4)", x.count(4), 3);
-        DarkShadows y = told("2;0=");
+        Used y = Used.told("2;0=");
         due(12, "turn nothing", y.turn(0), 81);
         due(12, "is an act all the same", y.count(4), 1);
     }
 
     private static void calling() {
-        DarkShadows x = new DarkShadows();
+        Used x = new Used();
         for (int v : EXTREMES) {
             due(13, "call " + v, x.call(v), BAD);
         }
@@ -331,7 +318,7 @@ public final class PromisesTest {
     }
 
     private static void drifting() {
-        DarkShadows x = told("4;a+9>;b>");
+        Used x = Used.told("4;a+9>;b>");
         for (int v : EXTREMES) {
             due(14, "drift " + v, x.drift(v), BAD);
         }
@@ -344,7 +331,7 @@ public final class PromisesTest {
         cells(14, x, 1, 0, 1, 0, 0, 0, 0);
         due(14, "THE DRAW", x.seed(1), 1103527590);
         due(14, "count(4)", x.count(4), 1);
-        DarkShadows y = new DarkShadows();
+        Used y = new Used();
         due(14, "drift without constraints", y.drift(40), 625);
         due(14, "eight are known", y.count(4), 8);
         long draw = 1;
@@ -355,7 +342,7 @@ public final class PromisesTest {
     }
 
     private static void undoing() {
-        DarkShadows x = new DarkShadows();
+        Used x = new Used();
         due(15, "undo nothing", x.undo(), NONE);
         x.seed(5);
         due(15, "seed is no act", x.undo(), NONE);
@@ -401,7 +388,7 @@ public final class PromisesTest {
     }
 
     private static void seeding() {
-        DarkShadows x = new DarkShadows();
+        Used x = new Used();
         due(16, "seed", x.seed(Integer.MAX_VALUE), 1);
         due(16, "seed -1", x.seed(-1), BAD);
         due(16, "seed least", x.seed(Integer.MIN_VALUE), BAD);
@@ -411,7 +398,7 @@ public final class PromisesTest {
     }
 
     private static void ranges() {
-        DarkShadows x = told("7;a-2>;a-6<;a%;b-a-1=;c-3=");
+        Used x = Used.told("7;a-2>;a-6<;a%;b-a-1=;c-3=");
         due(17, "least", x.range(0, 0), 2);
         due(17, "greatest", x.range(0, 1), 6);
         due(17, "values", x.range(0, 2), 4 + 16 + 64);
@@ -438,19 +425,19 @@ public final class PromisesTest {
         due(18, "apart 4", x.apart(0, 4, 0), BAD);
         due(18, "apart what 3", x.apart(0, 1, 3), BAD);
         due(18, "apart alike", x.apart(2, 2, 0), BAD);
-        DarkShadows none = told("7;a-9>");
+        Used none = Used.told("7;a-9>");
         due(17, "no least", none.range(0, 0), NONE);
         due(17, "no greatest", none.range(0, 1), NONE);
         due(17, "no values", none.range(0, 2), 0);
         due(18, "no least", none.apart(0, 1, 0), NONE);
         due(18, "no greatest", none.apart(0, 1, 1), NONE);
         due(18, "none", none.apart(0, 1, 2), 0);
-        due(18, "all gaps of 7", told("7").apart(3, 0, 2), 15);
-        due(18, "least of 7", told("7").apart(3, 0, 0), -7);
+        due(18, "all gaps of 7", Used.told("7").apart(3, 0, 2), 15);
+        due(18, "least of 7", Used.told("7").apart(3, 0, 0), -7);
     }
 
     private static void shadowRows() {
-        DarkShadows x = told("5;2a+4b-7>;3a-6c+1<;2b-4d-3=;a#;a%");
+        Used x = Used.told("5;2a+4b-7>;3a-6c+1<;2b-4d-3=;a#;a%");
         due(19, "rows", x.row(0, 0, -1, 0), 6);
         row(x, 0, 0, 0, 0, 1, 0, -2, -2);
         row(x, 0, 0, 1, 0, -1, 0, 2, 1);
@@ -475,7 +462,7 @@ public final class PromisesTest {
         due(19, "shadow 2", x.row(0, 2, 0, 0), BAD);
         due(19, "i 5", x.row(0, 0, 0, 5), BAD);
         due(19, "k 6", x.row(0, 0, 6, 0), BAD);
-        DarkShadows most = told("7;a=;a=;a=;a=;a=;a=;a=;9a+9b=");
+        Used most = Used.told("7;a=;a=;a=;a=;a=;a=;a=;9a+9b=");
         due(19, "most rows", most.row(0, 0, -1, 0), 81);
         due(19, "last row", most.row(0, 0, 80, 4), 7);
         due(19, "row 81", most.row(0, 0, 81, 4), BAD);
@@ -484,19 +471,19 @@ public final class PromisesTest {
 
     private static void shadowDepths() {
         // 3a is b + 1 or b + 2: with parts always, for a whole a unless 3 divides b.
-        DarkShadows x = told("7;3a-b-1>;3a-b-2<");
+        Used x = Used.told("7;3a-b-1>;3a-b-2<");
         due(20, "real", x.deep(0, 0), 8 * 64);
         due(20, "dark", x.deep(0, 1), 0);
         due(20, "true", x.deep(0, 2), 5 * 64);
         due(20, "grey", x.deep(0, 3), 8 * 64);
         due(20, "lit", x.deep(0, 4), 5 * 64);
-        DarkShadows even = told("4;2a-1=");
+        Used even = Used.told("4;2a-1=");
         due(20, "real", even.deep(0, 0), 125);
         due(20, "dark", even.deep(0, 1), 0);
         due(20, "true", even.deep(0, 2), 0);
-        DarkShadows others = told("3;a#;a%");
+        Used others = Used.told("3;a#;a%");
         due(20, "neither OTHER nor EVEN is asked", others.deep(0, 2), 64);
-        due(20, "of d", told("4;a+b-2<").deep(3, 0), 6 * 5);
+        due(20, "of d", Used.told("4;a+b-2<").deep(3, 0), 6 * 5);
         for (int v : EXTREMES) {
             due(20, "deep " + v, x.deep(v, 0), BAD);
             due(20, "deep what " + v, x.deep(0, v), BAD);
@@ -506,17 +493,17 @@ public final class PromisesTest {
     }
 
     private static void spares() {
-        DarkShadows x = new DarkShadows();
+        Used x = new Used();
         due(21, "spare(0)", x.spare(0), NONE);
         due(21, "spare(1)", x.spare(1), NONE);
         for (int v : EXTREMES) {
             due(21, "spare " + v, x.spare(v), BAD);
         }
         due(21, "spare 2", x.spare(2), BAD);
-        tell(x, "4;a-1<;b=;c=");
+        x.tell("4;a-1<;b=;c=");
         due(21, "which", x.spare(0), 1);
         due(21, "how many", x.spare(1), 50);
-        tell(x, "4;a-9>;b-9>");
+        x.tell("4;a-9>;b-9>");
         due(21, "which of none", x.spare(0), 0);
         due(21, "how many of none", x.spare(1), 0);
     }
@@ -526,12 +513,12 @@ public final class PromisesTest {
             "4;4a-1=", "4;9a+9b+9c+9d+99<", "1;-9a-9b-9c-9d-99>"};
         int[] dues = {0, 5, -9, 5, -9, 1, 1, NONE, 0, 2, 1, -99, 99};
         for (int i = 0; i < texts.length; i++) {
-            due(22, "stretch of " + texts[i], told(texts[i]).stretch(0), dues[i]);
+            due(22, "stretch of " + texts[i], Used.told(texts[i]).stretch(0), dues[i]);
         }
-        due(22, "less", told("4;4a-3=").stretch(0), -1);
-        DarkShadows far = told("1;-9a-99>;a-1=");
+        due(22, "less", Used.told("4;4a-3=").stretch(0), -1);
+        Used far = Used.told("1;-9a-99>;a-1=");
         due(22, "beyond 99", far.stretch(0), NONE);
-        due(22, "rest beyond its bounds", told("1;9a+99<;a=").stretch(0), -99);
+        due(22, "rest beyond its bounds", Used.told("1;9a+99<;a=").stretch(0), -99);
         for (int v : EXTREMES) {
             due(22, "stretch " + v, far.stretch(v), BAD);
         }
@@ -539,29 +526,29 @@ public final class PromisesTest {
     }
 
     private static void cores() {
-        due(23, "of nothing", new DarkShadows().core(), NONE);
-        due(23, "points", told("4;a>").core(), NONE);
-        due(23, "one", told("4;a>;a-9>;b-9>").core(), 2);
-        due(23, "two", told("4;a+b-7>;c>;a-3<;b-3<;d-3=").core(), 1 + 4 + 8);
-        due(23, "like ones", told("4;a-2>;b-2>;a-1<;b-1<").core(), 1 + 4);
-        due(23, "like ones", told("4;a-2>;b-2>;b-1<;a-1<").core(), 2 + 4);
-        due(23, "all", told("1;a+b+c+d-4=;a=").core(), 3);
-        due(23, "eight", told("1;a+b+c+d-9>;a>;a>;a>;a>;a>;a>;0#").core(), 1);
+        due(23, "of nothing", new Used().core(), NONE);
+        due(23, "points", Used.told("4;a>").core(), NONE);
+        due(23, "one", Used.told("4;a>;a-9>;b-9>").core(), 2);
+        due(23, "two", Used.told("4;a+b-7>;c>;a-3<;b-3<;d-3=").core(), 1 + 4 + 8);
+        due(23, "like ones", Used.told("4;a-2>;b-2>;a-1<;b-1<").core(), 1 + 4);
+        due(23, "like ones", Used.told("4;a-2>;b-2>;b-1<;a-1<").core(), 2 + 4);
+        due(23, "all", Used.told("1;a+b+c+d-4=;a=").core(), 3);
+        due(23, "eight", Used.told("1;a+b+c+d-9>;a>;a>;a>;a>;a>;a>;0#").core(), 1);
     }
 
     private static void firstAndLastPoints() {
-        DarkShadows last = told("7;a+b+c+d-28=");
+        Used last = Used.told("7;a+b+c+d-28=");
         due(8, "count(2)", last.count(2), 1);
         due(8, "count(3)", last.count(3), 4095);
         due(17, "values", last.range(2, 2), 128);
         due(18, "gaps", last.apart(0, 3, 2), 1);
         due(21, "spare", last.spare(1), 4096);
         due(23, "core", last.core(), NONE);
-        tell(last, "7;a+b+c+d-28=;d#");
+        last.tell("7;a+b+c+d-28=;d#");
         due(21, "spare", last.spare(1), 4096 - 512);
-        tell(last, "7;a+b+c+d-28=;a-2>;d-9>");
+        last.tell("7;a+b+c+d-28=;a-2>;d-9>");
         due(22, "stretch", last.stretch(2), 2);
-        DarkShadows first = told("7;a+b+c+d=");
+        Used first = Used.told("7;a+b+c+d=");
         due(4, "sum", first.sum(0, 0), 0);
         due(8, "count(2)", first.count(2), 1);
         due(8, "count(3)", first.count(3), 0);
@@ -573,20 +560,20 @@ public final class PromisesTest {
         due(23, "core", first.core(), NONE);
         first.sheet(0, 3, 2);
         due(28, "film", first.film(2, 0, 3, 0), 2);
-        due(28, "0", seenSum(first, 0, 3, 0), 0);
-        due(28, "no more", seenSum(first, 0, 3, 1), NOT);
-        DarkShadows two = told("1;a+b+c+d-1<;a=;b=;c=");
+        item(28, first, 0, 3, 0, 0);
+        item(28, first, 0, 3, 1, NOT);
+        Used two = Used.told("1;a+b+c+d-1<;a=;b=;c=");
         two.sheet(0, 3, 3);
         due(28, "film", two.film(3, 0, 3, 0), 3);
-        due(28, "0", seenSum(two, 0, 3, 0), 0);
-        due(28, "1", seenSum(two, 0, 3, 1), 1);
-        due(28, "no more", seenSum(two, 0, 3, 2), NOT);
-        due(20, "the least value alone", told("7;a<").deep(0, 2), 512);
-        due(20, "the greatest value alone", told("7;a-7>").deep(0, 2), 512);
+        item(28, two, 0, 3, 0, 0);
+        item(28, two, 0, 3, 1, 1);
+        item(28, two, 0, 3, 2, NOT);
+        due(20, "the least value alone", Used.told("7;a<").deep(0, 2), 512);
+        due(20, "the greatest value alone", Used.told("7;a-7>").deep(0, 2), 512);
     }
 
     private static void askedOdds() {
-        DarkShadows x = told("4;a>;b#;c-1=;d-5>");
+        Used x = Used.told("4;a>;b#;c-1=;d-5>");
         due(24, "three fail", x.asked(0, 3, 0), 343);
         due(24, "three fail", x.asked(0, 3, 1), 1000);
         due(24, "lowest terms", x.asked(0, 5, 0), 1);
@@ -597,9 +584,9 @@ public final class PromisesTest {
         due(24, "none asked", x.asked(0, 0, 1), 1);
         due(24, "all asked", x.asked(0, 10, 0), 0);
         due(24, "all asked", x.asked(0, 10, 1), 1);
-        due(24, "eight fail", told("1;1=;1=;1=;1=;1=;1=;1=;1=").asked(0, 1, 0), 43046721);
-        due(24, "eight fail", told("1;1=;1=;1=;1=;1=;1=;1=;1=").asked(0, 1, 1), 100000000);
-        due(24, "all hold", told("1;a>").asked(0, 10, 0), 1);
+        due(24, "eight fail", Used.told("1;1=;1=;1=;1=;1=;1=;1=;1=").asked(0, 1, 0), 43046721);
+        due(24, "eight fail", Used.told("1;1=;1=;1=;1=;1=;1=;1=;1=").asked(0, 1, 1), 100000000);
+        due(24, "all hold", Used.told("1;a>").asked(0, 10, 0), 1);
         due(24, "above MOST", x.asked(point(5, 0, 0, 0), 0, 0), BAD);
         due(24, "above MOST", x.asked(point(0, 5, 0, 0), 0, 0), BAD);
         due(24, "above MOST", x.asked(point(0, 0, 5, 0), 0, 0), BAD);
@@ -615,7 +602,7 @@ public final class PromisesTest {
     }
 
     private static void images() {
-        DarkShadows x = told("3;a>");
+        Used x = Used.told("3;a>");
         x.change(0, 0, 2);
         x.seed(9);
         x.sheet(0, 1, 3);
@@ -640,7 +627,7 @@ public final class PromisesTest {
         due(26, "restore again", x.restore(), 1);
         due(26, "factor", x.of(0, 0), 2);
         x.system();
-        due(26, "a system told", tell(x, "7;b<;c<"), 2);
+        due(26, "a system told", x.tell("7;b<;c<"), 2);
         due(26, "leaves the image", x.restore(), 1);
         due(26, "MOST", x.count(1), 3);
         due(26, "may be undone", x.count(4), 1);
@@ -652,7 +639,7 @@ public final class PromisesTest {
     }
 
     private static void seenPoints() {
-        DarkShadows x = told("4;a-b-2>");
+        Used x = Used.told("4;a-b-2>");
         x.sheet(1, 1, 10);
         x.item(1, 1, 0, point(2, 0, 0, 0));
         x.item(1, 1, 1, point(4, 0, 0, 0));
@@ -698,22 +685,22 @@ public final class PromisesTest {
     }
 
     private static void films() {
-        DarkShadows x = told("4;a-1=;b=;c-1<");
+        Used x = Used.told("4;a-1=;b=;c-1<");
         x.sheet(0, 1, 24);
         due(28, "film", x.film(12, 0, 1, 3), 12);
         // What is not filmed stays 0, which is a point; behind the ten points stands -1, which is none.
-        due(28, "item 2 stays", seenSum(x, 0, 1, 2), 0);
+        item(28, x, 0, 1, 2, 0);
         int[] points = {512, 513, 514, 515, 516, 520, 521, 522, 523, 524};
         for (int k = 0; k < points.length; k++) {
-            due(28, "item " + (k + 3), seenSum(x, 0, 1, k + 3), points[k]);
+            item(28, x, 0, 1, k + 3, points[k]);
         }
-        due(28, "item 13", seenSum(x, 0, 1, 13), NOT);
-        due(28, "item 14", seenSum(x, 0, 1, 14), NOT);
-        due(28, "item 15 stays", seenSum(x, 0, 1, 15), 0);
+        item(28, x, 0, 1, 13, NOT);
+        item(28, x, 0, 1, 14, NOT);
+        item(28, x, 0, 1, 15, 0);
         x.sheet(1, 0, 24);
-        tell(x, "5;a-1=;b=;c=;d-5=");
+        x.tell("5;a-1=;b=;c=;d-5=");
         due(28, "film of bytes", x.film(1, 1, 0, 23), 1);
-        due(28, "lowest bits of 517", seenSum(x, 1, 0, 23), 5);
+        item(28, x, 1, 0, 23, 5);
         due(28, "beyond", x.film(2, 1, 0, 23), INDEX);
         due(28, "below", x.film(2, 1, 0, -1), INDEX);
         due(28, "far", x.film(2, 1, 0, Integer.MAX_VALUE), INDEX);
@@ -728,32 +715,34 @@ public final class PromisesTest {
         }
     }
 
-    /** An item, by the sums of constraints that tell a point; NOT: it is none. */
-    private static int seenSum(DarkShadows x, int sheet, int lane, int i) {
+    /** The item that is due, if it is so; else NOT where it is no point, or -1. */
+    private static int itemDue(Used x, int sheet, int lane, int i, int want) {
+        int point = want & 4095;
         x.image();
-        tell(x, "7");
-        int[] shifts = {9, 6, 3, 0};
-        int point = 0;
-        for (int v = 0; v < 4; v++) {
-            x.add(2, pack(v == 0 ? 1 : 0, v == 1 ? 1 : 0, v == 2 ? 1 : 0, v == 3 ? 1 : 0), 0);
-            for (int value = 0; value < 8; value++) {
-                x.change(v, 4, -value);
-                int kinds = x.seen(v, sheet, lane, i, 1, 0);
-                if (kinds == NOT) {
-                    x.restore();
-                    return NOT;
-                }
-                if ((kinds & 4) != 0) {
-                    point += value << shifts[v];
-                }
-            }
-        }
+        x.tell("7");
+        x.add(2, pack(8, 1, 0, 0), -(point / 64));
+        x.add(2, pack(0, 0, 8, 1), -(point % 64));
+        int ahead = x.seen(0, sheet, lane, i, 1, 0);
+        int behind = x.seen(1, sheet, lane, i, 1, 0);
         x.restore();
-        return point;
+        if (ahead < 0 || behind < 0) {
+            return ahead;
+        }
+        return (ahead & behind & 4) == 0 ? -1 : point;
+    }
+
+    private static void items(int promise, Used x, int sheet, int lane, int... wants) {
+        for (int i = 0; i < wants.length; i++) {
+            item(promise, x, sheet, lane, i, wants[i]);
+        }
+    }
+
+    private static void item(int promise, Used x, int sheet, int lane, int i, int want) {
+        due(promise, "item " + i + " of sheet " + sheet, itemDue(x, sheet, lane, i, want), want);
     }
 
     private static void sheetsLaid() {
-        DarkShadows x = new DarkShadows();
+        Used x = new Used();
         for (int v : EXTREMES) {
             due(29, "sheet " + v, x.sheet(v, 0, 0), BAD);
             due(29, "sheet lane " + v, x.sheet(0, v, 0), BAD);
@@ -776,25 +765,25 @@ public final class PromisesTest {
         due(31, "item -1", x.item(3, 2, -1, 5), INDEX);
         due(31, "item far", x.item(3, 2, Integer.MAX_VALUE, 5), INDEX);
         due(31, "item of longs", x.item(3, 3, 99, 5), CAST);
-        due(31, "set", seenSum(x, 3, 2, 23), 5);
+        item(31, x, 3, 2, 23, 5);
         due(29, "anew", x.sheet(3, 2, 24), 24);
-        due(29, "all 0", seenSum(x, 3, 2, 23), 0);
+        item(29, x, 3, 2, 23, 0);
         long[] wide = {256 + 7, 65536 + 1234, (1L << 32) + 4095, 77};
         int[] cut = {7, 1234, 4095, 77};
         for (int lane = 0; lane < 4; lane++) {
             x.sheet(1, lane, 2);
             due(31, "item", x.item(1, lane, 1, wide[lane]), 1);
-            due(31, "lowest bits", seenSum(x, 1, lane, 1), cut[lane]);
+            item(31, x, 1, lane, 1, cut[lane]);
         }
         x.sheet(1, 0, 1);
         x.item(1, 0, 0, 128);
-        due(31, "a byte of 128", seenSum(x, 1, 0, 0), NOT);
+        item(31, x, 1, 0, 0, NOT);
         due(30, "clear", x.clear(3), 24);
         due(30, "cleared", x.item(3, 2, 0, 0), NULL);
     }
 
     private static void copies() {
-        DarkShadows x = new DarkShadows();
+        Used x = new Used();
         x.sheet(0, 1, 6);
         x.sheet(1, 1, 4);
         x.sheet(2, 2, 4);
@@ -803,19 +792,13 @@ public final class PromisesTest {
         }
         due(32, "forth", x.copy(0, 0, 0, 1, 5), 5);
         int[] forth = {1, 1, 2, 3, 4, 5};
-        for (int i = 0; i < 6; i++) {
-            due(32, "item " + i, seenSum(x, 0, 1, i), forth[i]);
-        }
+        items(32, x, 0, 1, forth);
         due(32, "back", x.copy(0, 2, 0, 0, 4), 4);
         int[] back = {2, 3, 4, 5, 4, 5};
-        for (int i = 0; i < 6; i++) {
-            due(32, "item " + i, seenSum(x, 0, 1, i), back[i]);
-        }
+        items(32, x, 0, 1, back);
         due(32, "other", x.copy(0, 1, 1, 2, 2), 2);
         int[] other = {0, 0, 3, 4};
-        for (int i = 0; i < 4; i++) {
-            due(32, "item " + i, seenSum(x, 1, 1, i), other[i]);
-        }
+        items(32, x, 1, 1, other);
         due(32, "n 0 at the ends", x.copy(0, 6, 1, 4, 0), 0);
         due(32, "n 0, i beyond", x.copy(0, 7, 1, 4, 0), INDEX);
         due(32, "n 0, j beyond", x.copy(0, 6, 1, 5, 0), INDEX);
