@@ -390,9 +390,9 @@ public final class DarkShadows {
         int kinds = 0;
         for (int kind = LEAST; kind <= EVEN; kind++) {
             boolean fits = true;
-            for (int k = 0; k < n; k++) {
+            for (int k = 0; k < n && fits; k++) {
                 int sum = book.now.sumAt(constraint, (int) sheets.get(sheet, i + k));
-                fits &= Kinds.holds(kind, sum) == wanted;
+                fits = Kinds.holds(kind, sum) == wanted;
             }
             kinds |= fits ? 1 << kind : 0;
         }

@@ -1,6 +1,9 @@
 import com.sun.source.tree.AssertTree;
+import com.sun.source.tree.BinaryTree;
 import com.sun.source.tree.ClassTree;
 import com.sun.source.tree.CompilationUnitTree;
+import com.sun.source.tree.CompoundAssignmentTree;
+import com.sun.source.tree.ExpressionTree;
 import com.sun.source.tree.LambdaExpressionTree;
 import com.sun.source.tree.MemberReferenceTree;
 import com.sun.source.tree.MethodInvocationTree;
@@ -12,6 +15,7 @@ import com.sun.source.tree.Tree;
 import com.sun.source.tree.TryTree;
 import com.sun.source.tree.VariableTree;
 import com.sun.source.util.JavacTask;
+import com.sun.source.util.TreePath;
 import com.sun.source.util.TreePathScanner;
 import com.sun.source.util.Trees;
 import java.lang.reflect.Constructor;
@@ -30,6 +34,7 @@ import java.util.regex.Matcher;
 import java.util.regex.Pattern;
 import javax.lang.model.element.Element;
 import javax.lang.model.element.ExecutableElement;
+import javax.lang.model.type.TypeMirror;
 import javax.tools.JavaCompiler;
 import javax.tools.StandardJavaFileManager;
 import javax.tools.ToolProvider;
@@ -212,7 +217,30 @@ public final class LanguageTest {
             Set<javax.lang.model.element.Modifier> flags = tree.getModifiers().getFlags();
             boolean isStatic = flags.contains(javax.lang.model.element.Modifier.STATIC);
             must(!isStatic || flags.contains(javax.lang.model.element.Modifier.FINAL), "rule 5: " + tree.getName());
+            String type = trees.getTypeMirror(getCurrentPath()).toString();
+            must(type.matches("(int|long|char|boolean)(\\[\\])?|DarkShadows\\.\\w+"), "rule 3: " + tree.getName() + " is " + type);
             return super.visitVariable(tree, none);
+        }
+
+        @Override public Void visitBinary(BinaryTree tree, Void none) {
+            boolean isBitwise = tree.getKind() == Tree.Kind.AND || tree.getKind() == Tree.Kind.OR || tree.getKind() == Tree.Kind.XOR;
+            checkOperand(tree.getLeftOperand(), isBitwise, tree);
+            checkOperand(tree.getRightOperand(), isBitwise, tree);
+            return super.visitBinary(tree, none);
+        }
+
+        @Override public Void visitCompoundAssignment(CompoundAssignmentTree tree, Void none) {
+            checkOperand(tree.getVariable(), true, tree);
+            checkOperand(tree.getExpression(), true, tree);
+            return super.visitCompoundAssignment(tree, none);
+        }
+
+        /** Of booleans rule 10 lists && and || alone; of texts it asks a StringBuilder. */
+        private void checkOperand(ExpressionTree operand, boolean isBitwise, Tree whole) {
+            TypeMirror type = trees.getTypeMirror(new TreePath(getCurrentPath(), operand));
+            if (type.toString().equals("java.lang.String") || isBitwise && type.toString().equals("boolean")) {
+                not("rule 10", whole);
+            }
         }
 
         @Override public Void visitLambdaExpression(LambdaExpressionTree tree, Void none) {
